@@ -143,7 +143,7 @@ public final class HamperByWeather {
         if (refusal != 0) {
             return refused(refusal);
         }
-        int before = now.weights[weather];
+        int before = now.weightOf(weather);
         steps.noteWeight(now, weather);
         now.reweigh(weather, v);
         return before;
@@ -194,7 +194,7 @@ public final class HamperByWeather {
             return refusedLong(OTHER);
         }
         int could = now.couldBe(now.hampers[day]);
-        int above = holds(could, weather) ? now.weights[weather] : 0;
+        int above = holds(could, weather) ? now.weightOf(weather) : 0;
         fraction.become(above, now.weightOfAll(could));
         return fraction.told(part);
     }
@@ -750,6 +750,10 @@ public final class HamperByWeather {
             return day;
         }
 
+        int weightOf(int weather) {
+            return isWeather(weather) ? weights[weather] : 0;
+        }
+
         void reweigh(int weather, int v) {
             if (isWeather(weather)) {
                 weights[weather] = v;
@@ -881,9 +885,7 @@ public final class HamperByWeather {
         }
 
         void noteWeight(State state, int weather) {
-            if (isWeather(weather)) {
-                note(state, Step.WEIGHT, weather).before = state.weights[weather];
-            }
+            note(state, Step.WEIGHT, weather).before = state.weightOf(weather);
         }
 
         void noteHamper(State state, int day) {
