@@ -526,11 +526,13 @@ public final class HamperByWeather {
 
         static int heavy(int kind, int figure) {
             int plain = figure + 1;
+            int dish = plain + 2;
+            int coat = 4;
             switch (kind) {
-                case DISH: return plain + 2;
-                case COAT: return plain + 4;
-                case ROPE: return (plain + 4) / 2;
-                case TRIFLE: return 2 * (plain + 2);
+                case DISH: return dish;
+                case COAT: return coat;
+                case ROPE: return coat / 2;
+                case TRIFLE: return 2 * dish;
                 case SKY: return 0;
                 default: return plain;
             }

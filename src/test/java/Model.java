@@ -105,7 +105,7 @@ final class Model {
         }
 
         int heavy() {
-            return super.heavy() + 4;
+            return 4;
         }
 
         int dear() {

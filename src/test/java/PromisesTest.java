@@ -160,7 +160,7 @@ public final class PromisesTest {
 
     private static void things() {
         HamperByWeather x = hall(SIX_KINDS);
-        int[][] due = {{0, 3, 4, 1, 55}, {1, 4, 7, 4, 21}, {2, 0, 5, 4, 38}, {3, 8, 6, 2, 38}, {4, 2, 10, 7, 21},
+        int[][] due = {{0, 3, 4, 1, 55}, {1, 4, 7, 4, 21}, {2, 0, 4, 4, 38}, {3, 8, 2, 2, 38}, {4, 2, 10, 7, 21},
             {5, 5, 0, 9, 63}};
         for (int t = 0; t < due.length; t++) {
             for (int what = 0; what < 5; what++) {
@@ -174,19 +174,28 @@ public final class PromisesTest {
         is("4 other", x.thingOf(0, 5), -2);
         is("4 other", x.thingOf(0, -1), -2);
         x = hall("t09;t19;t29;t39;t49;t30;t31;t43;");
-        int[][] others = {{0, 9, 10, 1, 55}, {1, 9, 12, 9, 42}, {2, 9, 14, 4, 38}, {3, 9, 7, 1, 46}, {4, 9, 24, 14, 40},
-            {3, 0, 2, 4, 39}, {3, 1, 3, 4, 38}, {4, 3, 12, 8, 40}};
+        int[][] others = {{0, 9, 10, 1, 55}, {1, 9, 12, 9, 42}, {2, 9, 4, 4, 38}, {3, 9, 2, 1, 46}, {4, 9, 24, 14, 40},
+            {3, 0, 2, 4, 39}, {3, 1, 2, 4, 38}, {4, 3, 12, 8, 40}};
         for (int t = 0; t < others.length; t++) {
             for (int what = 0; what < 5; what++) {
                 is("4 thingOf " + t + " " + what, x.thingOf(t, what), others[t][what]);
             }
         }
         is("4 none above the eighth", x.thingOf(8, 0), -1);
+        for (int figure = 0; figure <= 9; figure++) {
+            HamperByWeather y = new HamperByWeather();
+            y.thing(2, figure);
+            y.thing(3, figure);
+            y.thing(4, figure);
+            is("4 heavy of a coat, whatever its figure", y.thingOf(0, 2), 4);
+            is("4 heavy of a rope, half of that", y.thingOf(1, 2), 2);
+            is("4 heavy of a trifle, twice a dish's", y.thingOf(2, 2), 2 * figure + 6);
+        }
     }
 
     private static void days() {
         HamperByWeather x = hall(SIX_KINDS + "d000;d063;d006;d005;w29;w17;w57;");
-        int[][] due = {{0, 63, 2, 0, 0}, {63, 4, 2, 32, 27}, {6, 4, 2, 12, 8}, {5, 38, 2, 9, 5}};
+        int[][] due = {{0, 63, 2, 0, 0}, {63, 4, 2, 27, 27}, {6, 4, 2, 11, 8}, {5, 38, 2, 8, 5}};
         for (int d = 0; d < due.length; d++) {
             for (int what = 0; what < 5; what++) {
                 is("5 dayOf " + d + " " + what, x.dayOf(d, what), due[d][what]);
@@ -414,7 +423,7 @@ public final class PromisesTest {
         is("16 one of two alike", x.looks(4), 2);
         is("16 day", x.looks(5), -1);
         is("16 day", x.looks(-1), -1);
-        is("17 lightest", x.pack(2, 0), 3);
+        is("17 lightest", x.pack(2, 0), 6);
         is("17 dearest, less what costs 0", x.pack(2, 1), 29);
         is("17 none", x.pack(0, 0), -9);
         is("17 none", x.pack(0, 1), -9);
@@ -422,13 +431,17 @@ public final class PromisesTest {
         is("17 weather", x.pack(-1, 0), -1);
         is("17 other", x.pack(2, 2), -2);
         is("17 other", x.pack(2, -1), -2);
-        // COAT 0 and DISH 0: heavy 5 and 3; ROPE 5 (half of 10 is 5) goes with 1, 2, 5 too.
+        // COAT 4, DISH 0 3, ROPE 2 heavy; ROPE 5 goes with 1, 2, 5 too.
         x = hall("t20;t10;t35;t10;");
-        is("17 of several the least", x.pack(2, 0), 3);
+        is("17 of several the least", x.pack(2, 0), 6);
         is("17 most dear", x.pack(2, 1), 7);
         x = hall("t20;t10;");
         is("17 all there are", x.pack(2, 0), 3);
         is("17 all there are", x.pack(2, 1), 3);
+        // A COAT of FIGURE 9 is as heavy as one of 0.
+        x = hall("t29;t20;t10;");
+        is("17 coats alike, the least", x.pack(2, 0), 5);
+        is("17 dearest", x.pack(2, 1), 7);
         x = hall("t55;t20;t10;t10;t50;");
         is("17 heavy 0 adds nothing", x.pack(2, 0), 6);
         is("17 dearest takes both", x.pack(2, 1), 23);
@@ -653,16 +666,26 @@ public final class PromisesTest {
     }
 
     private static void lightestAndMean() {
-        HamperByWeather x = hall("t20;t10;d003;d001;d002;d002;");
+        HamperByWeather x = hall("t29;t10;d003;d001;d002;d002;");
         is("33 day", x.lightest(0), 2);
         is("33 that", x.lightest(1), 3);
         is("33 other", x.lightest(2), -2);
         is("33 other", x.lightest(-1), -2);
-        is("37 19 by 4", x.mean(0), 19);
-        is("37 19 by 4", x.mean(1), 4);
+        is("37 17 by 4", x.mean(0), 17);
+        is("37 17 by 4", x.mean(1), 4);
+        x.packs(1, 1);
+        is("37 20 by 4", x.mean(0), 5);
+        is("37 20 by 4", x.mean(1), 1);
+        x.packs(2, 1);
         x.packs(0, 0);
-        is("37 14 by 4", x.mean(0), 7);
-        is("37 14 by 4", x.mean(1), 2);
+        is("37 13 by 4", x.mean(0), 13);
+        x.packs(3, 1);
+        is("37 10 by 4", x.mean(0), 5);
+        is("37 10 by 4", x.mean(1), 2);
+        is("33 nothing is least, the first of two", x.lightest(0), 2);
+        is("33 that", x.lightest(1), 0);
+        x.packs(2, 1);
+        x.packs(3, 1);
         is("33 least of several", x.lightest(0), 0);
         is("37 part", x.mean(2), L + 2);
         is("37 part", x.mean(-1), L + 2);
