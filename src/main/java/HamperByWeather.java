@@ -1442,7 +1442,7 @@ public final class HamperByWeather {
             fields.copyFrom(state.fields);
             days = Math.max(0, Math.min(state.days, MOST_DAYS));
             for (int d = 0; d < MOST_DAYS; d++) {
-                weathers[d] = state.hasDay(d) ? state.likeliestOn(d) : NONE;
+                weathers[d] = state.hasDay(d) ? state.likeliestBy(state.hamperOf(d)) : NONE;
             }
         }
 

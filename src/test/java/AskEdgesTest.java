@@ -192,6 +192,7 @@ public final class AskEdgesTest {
         is("of two COATS, whatever their FIGURE", hall("t10;t29;t20;").pack(2, 0), 3);
         is("what weighs nothing is left", hall("t50;t10;t20;t50;").pack(2, 0), 6);
         is("the last", hall("t49;t12;t10;t29;").pack(2, 0), 12);
+        is("by a fourth", hall("t20;t50;t50;t16;").pack(2, 0), 9);
         // 1 and 5 by a DISH 1 and a COAT, without 5 by a THING 5: 4, 4 and 6 heavy.
         is("three if no two do", hall("t05;t11;t20;").pack(1, 0), 7);
     }
@@ -220,6 +221,7 @@ public final class AskEdgesTest {
         is("the first of two", x.rope(), 4);
         x.packs(0, 7);
         is("the first of three", x.rope(), 0);
+        is("the first THING", hall("t30;d001;").rope(), 0);
     }
 
     /** "whose COULD BE holds none of WEATHERS a told FIELD WANTS": it wants none, or none could be. */
@@ -375,7 +377,11 @@ public final class AskEdgesTest {
         x.wants(1, 63, 9);
         is("all eight", x.gotIn(0), 8);
         is("none left on two", x.gotIn(1), 5);
-        is("as it was", x.fieldOf(0, 1) + x.fieldOf(1, 1), 12);
+        x.wants(1, 63, 5);
+        is("by all eight none left on three", x.gotIn(1), 7);
+        x.wants(1, 63, 6);
+        is("one too many", x.gotIn(1), 5);
+        is("as it was", x.fieldOf(0, 1) + x.fieldOf(1, 1), 9);
     }
 
     /** "ORDER: the same DAYS": there are none. */
@@ -439,11 +445,22 @@ public final class AskEdgesTest {
             is("the last DAY second", x.order(2, i), two[i]);
             is("all in order", x.order(7, i), i);
         }
+        is("asked for another", x.order(1, 0), 6);
         x.wants(0, 1, 0);
         for (int i = 0; i < 7; i++) {
             is("nothing to do", x.order(1, i), i);
         }
         is("nothing done", x.order(7, -1), 0);
+        x = hall("t20;d001;d001;d001;f0019;");
+        for (int k = 1; k <= 8; k++) {
+            for (int i = 0; i < 3; i++) {
+                is("none wants them", x.order(k, i), i);
+            }
+        }
+        x = hall("d000;d000;d000;");
+        for (int i = 0; i < 3; i++) {
+            is("nothing left, asked at once", x.order(1, i), i);
+        }
     }
 
     /** "PLAN: .. the most of LEFT that can be done": nothing. */
@@ -454,6 +471,8 @@ public final class AskEdgesTest {
         is("nothing left", hall("d000;d000;").plan(), 0);
         is("none wants it", hall("d000;f0629;").plan(), 0);
         is("wants none", hall("d000;f0009;").plan(), 0);
+        is("none of four wants it", hall("d000;f0629;f1629;f2629;f3629;").plan(), 0);
+        is("no LIKELIEST, four want all", hall("t10;t11;d003;f0639;f1639;f2639;f3639;").plan(), 0);
         is("no LIKELIEST", hall("t10;t11;d003;f0639;").plan(), 0);
         is("of no WEIGHT", hall("d000;f0639;" + NO_WEIGHTS).plan(), 0);
         is("all is as it was", x.fieldOf(0, 1), 9);
@@ -550,6 +569,9 @@ public final class AskEdgesTest {
         is("above 2", x.whatKind(0, 0), -3);
         is("above 2", x.whatKind(0, 1), -3);
         is("two stay", x.clear(), 2);
+        is("what is no more in the ROW is not looked at", x.whatKind(0, 0), 63);
+        x.row(0);
+        is("what is no more in the ROW is not looked at", x.whatKind(0, 0), 1 + 4);
     }
 
     /** "KINDS (bits) by which it is so; FIGURES": none. */
@@ -679,6 +701,10 @@ public final class AskEdgesTest {
         wrong("one", x, 1, 4, 0, 1);
         wrong("two", x, 2, 4, 9, 16);
         wrong("three", x, 3, 4, 27, 32);
+        x = hall("d000;d000;d000;f0011;f1021;");
+        wrong("one of each by two", x, 2, 3, 4, 9);
+        wrong("one of each by three", x, 3, 3, 2, 3);
+        wrong("the second is wrong", hall("d000;d000;f0031;f1021;"), 2, 3, 1, 3);
     }
 
     /** "JUDGED: the LIKELIEST of DAYS 0, 1, .. (9 none)". */
@@ -852,6 +878,7 @@ public final class AskEdgesTest {
         is("the last", x.lightest(0), 7);
         is("that", x.lightest(1), 10);
         is("all alike", hall("t49;d001;d001;").lightest(0), 0);
+        is("that", hall("t49;d001;d001;").lightest(1), 24);
     }
 
     /** "SWAP: .. -9". */
@@ -876,6 +903,7 @@ public final class AskEdgesTest {
     /** "by which more DAYS have a LIKELIEST than now". */
     private static void swapMoreThanNow() {
         is("one more, one less", hall("t10;t11;t12;t14;d003;d012;").swap(), -9);
+        is("one less, one more", hall("t12;t14;t10;t11;d003;d012;").swap(), -9);
         is("one more", hall("t10;t11;t12;t13;d003;d004;").swap(), 112);
         is("two more", hall("t10;t11;t12;t13;d003;d012;").swap(), 103);
         is("still none", hall("t10;t11;t12;t15;d003;d012;" + NO_WEIGHTS).swap(), -9);
@@ -904,6 +932,7 @@ public final class AskEdgesTest {
         is("no THINGS, a DAY", x.often(0) * 10 + x.often(1), -90);
         x = hall("t50;t50;d000;");
         is("none packed", x.often(1), 0);
+        is("none packed, all in none", x.often(0), 0);
         x.packs(0, 1);
         is("one packed", x.often(0) * 10 + x.often(1), 11);
     }
@@ -911,6 +940,8 @@ public final class AskEdgesTest {
     /** "the THING in most HAMPERS, of several the least". */
     private static void oftenOfSeveralTheLeast() {
         is("of two", hall("t50;t50;t50;d006;d006;").often(0), 1);
+        is("the first", hall("t50;t50;d001;d003;").often(0), 0);
+        is("of two the first", hall("t50;t50;d003;").often(0), 0);
         HamperByWeather x = hall("t50;t50;t50;t50;t50;t50;t50;t50;d128;d128;d128;d128;d128;d128;d128;d255;");
         is("the last", x.often(0), 7);
         is("in all", x.often(1), 8);
