@@ -233,6 +233,7 @@ public final class AskEdgesTest {
         is("wants all", x.wanted(3), 4);
     }
 
+    /** "WANTED: DAYS (bits)": of no DAYS, and of eight. */
     private static void wantedWithoutDays() {
         HamperByWeather x = new HamperByWeather();
         x.wants(0, 0, 0);
@@ -252,6 +253,7 @@ public final class AskEdgesTest {
         is("two with none, no WEATHER alike", hall("t10;t11;d003;d003;").apart(), 1);
     }
 
+    /** "how many twos of DAYS have COULD BE with no WEATHER alike": of as many DAYS as there is room for. */
     private static void apartOfEight() {
         is("all", hall("t10;t11;d003;d003;d003;d003;d003;d003;d003;d003;").apart(), 28);
         is("four and four", hall("t10;t11;d001;d001;d001;d001;d002;d002;d002;d002;").apart(), 16);
