@@ -1468,12 +1468,16 @@ public final class HamperByWeather {
             return spare;
         }
 
+        int mostByPlan(State state) {
+            begin(state);
+            return leastCut();
+        }
+
         /**
          * The most that a flow from days to fields carries is the least cut: for some of the fields
          * what is left on them, and each day that another field wishes for.
          */
-        int mostByPlan(State state) {
-            begin(state);
+        private int leastCut() {
             int least = days;
             for (int cut = 0; cut < 1 << FIELDS; cut++) {
                 int carried = fields.leftAmong(cut);
@@ -1490,7 +1494,8 @@ public final class HamperByWeather {
         void findOrder(State state, int k) {
             begin(state);
             counted = Math.min(k, days);
-            atMost = fields.allLeft();
+            // No order does more than a plan.
+            atMost = leastCut();
             most = -1;
             extendPath(this, 0, 0, 0);
         }
@@ -1504,8 +1509,9 @@ public final class HamperByWeather {
                 }
                 return;
             }
+            int more = Math.min(harvest.counted - depth, harvest.ableWithout(used));
+            int hoped = Math.min(work + more, harvest.atMost);
             for (int d = 0; d < harvest.days; d++) {
-                int hoped = Math.min(work + harvest.counted - depth, harvest.atMost);
                 if (!holds(used, d) && hoped > harvest.most) {
                     int field = harvest.fields.work(harvest.weathers[d]);
                     harvest.path[depth] = d;
@@ -1513,6 +1519,17 @@ public final class HamperByWeather {
                     harvest.fields.undoWork(field);
                 }
             }
+        }
+
+        /** A day that finds no field now finds none later either: what is left only shrinks. */
+        private int ableWithout(int used) {
+            int able = 0;
+            for (int d = 0; d < days; d++) {
+                if (!holds(used, d) && fields.fieldFor(weathers[d]) >= 0) {
+                    able++;
+                }
+            }
+            return able;
         }
 
         private void keepPath(int used) {
